@@ -1843,6 +1843,8 @@ public final class IslandOffice {
         /** Rationing: who eats first, and what each one gets. */
         private final int[] first;
         private final int[] got;
+        /** Of each house in the week: nobody comes or goes between the water and the fuel. */
+        private final int[] heads;
         /** Of whom a child is here. */
         private final int[] rears;
         /** Houses in which an old one is here. */
@@ -1855,6 +1857,7 @@ public final class IslandOffice {
             crews = withCrews;
             first = new int[PEOPLE_MAX];
             got = new int[PEOPLE_MAX];
+            heads = new int[HOUSES];
             rears = new int[PEOPLE_MAX];
             tends = new int[HOUSES];
             filledPosts = 0;
@@ -1865,6 +1868,7 @@ public final class IslandOffice {
             boolean calm = s.weather.at(s.week) <= s.settings[CALM];
             sendGuestsOff(s);
             letRain(s);
+            countHeads(s);
             drink(s);
             graze(s);
             filledPosts = crews.fill(s, judge);
@@ -1903,9 +1907,18 @@ public final class IslandOffice {
             s.grass = (int) Math.min(GRASS_MAX, s.grass + rain);
         }
 
-        private static void drink(Island s) {
+        private void countHeads(Island s) {
+            Arrays.fill(heads, 0);
+            for (int p = 0; p < s.people.n; p++) {
+                if (s.people.state[p] == HERE) {
+                    heads[s.people.house[p]]++;
+                }
+            }
+        }
+
+        private void drink(Island s) {
             for (int h = 0; h < HOUSES; h++) {
-                int water = s.people.headsOf(h) + s.cattle[h];
+                int water = heads[h] + s.cattle[h];
                 s.dry[h] = s.tank[h] < water ? 1 : 0;
                 s.tank[h] = Math.max(0, s.tank[h] - water);
             }
@@ -1928,7 +1941,7 @@ public final class IslandOffice {
             }
             for (int i = 0; i < s.posts.n; i++) {
                 long crew = crews.crew[i];
-                for (int p = 0; p < s.people.n; p++) {
+                for (int p = 0; p < s.people.n && crew != 0; p++) {
                     if ((crew >> p & 1) == 1) {
                         s.people.post[p] = i;
                     }
@@ -1987,12 +2000,12 @@ public final class IslandOffice {
             s.stores.stock[FOOD] = left;
         }
 
-        private static int burn(Island s) {
+        private int burn(Island s) {
             int lacking = 0;
             for (int g = FUEL; g < GOODS; g++) {
                 int use = s.stores.uses[g];
                 for (int h = 0; h < HOUSES && g == FUEL; h++) {
-                    use += s.people.headsOf(h) > 0 ? 1 : 0;
+                    use += heads[h] > 0 ? 1 : 0;
                 }
                 if (!s.stores.spend(g, use)) {
                     lacking |= 1 << g;

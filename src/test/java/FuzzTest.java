@@ -11,7 +11,7 @@ public final class FuzzTest {
     private static final int[] OFTEN = {14, 6, 4, 2, 3, 4, 3, 4, 14,
         6, 3, 8, 2, 3, 3, 6, 4, 6, 3, 5, 3, 12,
         5, 8, 4, 5, 2, 4, 8, 6, 18, 6, 2, 3, 1,
-        2, 2, 12, 6, 5, 8, 4, 4, 4, 5};
+        5, 5, 12, 6, 5, 8, 4, 4, 4, 5};
     private static final int LACK_OF_NUMBERS = 5;
 
     private final Random random;
@@ -19,13 +19,15 @@ public final class FuzzTest {
     private IslandOffice office = new IslandOffice();
     private Oracle oracle = new Oracle();
     private final int wild;
+    private final int style;
     private int calls;
     private boolean right = true;
 
     private FuzzTest(long seed) {
         random = new Random(seed);
         // Some runs ask much that is refused, most ask little of it.
-        wild = seed % 5 == 0 ? 15 : 2;
+        wild = seed % 5 == 0 ? 15 : seed % 5 == 1 ? 0 : 2;
+        style = (int) (seed % 7 % 4);
     }
 
     public static void main(String[] args) {
@@ -52,6 +54,9 @@ public final class FuzzTest {
         for (int often : OFTEN) {
             sum += often;
         }
+        if (style > 0) {
+            settle();
+        }
         if (random.nextInt(8) == 0) {
             // A long time ahead: runs that come to the last week.
             for (int i = 0; i < 1 + random.nextInt(7); i++) {
@@ -72,11 +77,38 @@ public final class FuzzTest {
                 putSky();
             }
             call(m, arguments(m));
+            if (style > 0 && calls % 8 == 0) {
+                call(4, new int[] {someone(), 0, 0, 0, 0});
+            }
             if (calls % 16 == 0) {
                 look();
             }
         }
         return right;
+    }
+
+    /** Starts with those who have enough and stay: 1 a few, 2 as many hands as a search takes, 3 many hands. */
+    private void settle() {
+        call(25, new int[] {3, random.nextBoolean() ? 99 : 25, 0, 0, 0});
+        int people = style == 1 ? between(3, 8) : style == 2 ? between(7, 12) : between(12, 30);
+        for (int i = 0; i < people; i++) {
+            int birth = -between(900, 3000);
+            int skills = random.nextInt(8) == 0 ? 0 : someSkills();
+            int mother = i > 0 && random.nextInt(5) == 0 ? random.nextInt(i) : -1;
+            if (random.nextInt(6) == 0) {
+                call(1, new int[] {birth, upTo(5), skills, random.nextBoolean() ? 400 : upTo(30), 0});
+            } else {
+                call(0, new int[] {random.nextInt(6) == 0 ? someBirth() : birth, upTo(5), mother, skills, 0});
+            }
+        }
+        int posts = between(1, 8);
+        for (int i = 0; i < posts; i++) {
+            call(17, new int[] {upTo(random.nextBoolean() ? 1 : 3), between(1, 3), upTo(3), 0, 0});
+        }
+        for (int i = 0; i < 4; i++) {
+            call(21, new int[] {0, 1000, 0, 0, 0});
+            call(21, new int[] {1, 500, 0, 0, 0});
+        }
     }
 
     /** A whole look round: it changes nothing, so it isn't counted among the calls. */

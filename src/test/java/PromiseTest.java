@@ -1718,6 +1718,21 @@ public final class PromiseTest {
         }
         due("as tried one by one", plan, want);
         due("and neither is 0", want / 100 > 0 && want % 100 > 0 ? 1 : 0, 1);
+        IslandOffice y = new IslandOffice();
+        // 15 and 12 a week; the ship of week 4 brings all.
+        for (int p = 0; p < 5; p++) {
+            y.person(-1500, p, -1, 0);
+        }
+        y.store(0, 70);
+        y.rank(1, 1, 7);
+        y.store(1, 60);
+        y.set(0, 500);
+        y.set(3, 99);
+        // 170 of food last eleven weeks, 160 ten; 140 of fuel eleven weeks, 130 ten.
+        due("all of food, some of fuel", y.plan(), 1008);
+        y.rank(1, 1, 10);
+        y.store(1, 10);
+        due("all of both", y.plan(), 1010);
     }
 
     private static void images() {
@@ -1796,6 +1811,84 @@ public final class PromiseTest {
         x.repeal(0);
         x.restore();
         due("not repealed", x.law(0, 5), -2);
+        lawsKept();
+        sameNumbersAnew();
+    }
+
+    /** What an image keeps of laws that others were made after. */
+    private static void lawsKept() {
+        IslandOffice x = new IslandOffice();
+        x.person(-1500, 0, -1, 0);
+        x.person(-1500, 0, -1, 0);
+        x.person(-1500, 0, -1, 0);
+        x.store(0, 900);
+        x.store(1, 900);
+        x.weeks(3);
+        made(x, "v:a>17");
+        x.weeks(1);
+        made(x, "e:a>1&k=0");
+        made(x, "e:a>2");
+        x.image();
+        x.found(2, 1);
+        x.restore();
+        int[][] want = {{0, 4, 3, 3, 0, -2}, {2, 5, 3, 3, 0, -2}, {2, 5, 3, 3, 0, -2}};
+        for (int law = 0; law < 3; law++) {
+            for (int what = 0; what < 6; what++) {
+                due("law " + law + ": " + what, x.law(law, what), want[law][what]);
+            }
+        }
+        x.keep(0, 2, 1);
+        due("size of its text", x.weight(0), 1002 + 9);
+        due("votes of its voters", x.found(1, 3), 0);
+        due("in force from its week on", x.force(2, 4), -2);
+        due("in force from its week on", x.force(2, 5), 2);
+        due("both hang on it", x.found(0, 0), 3);
+        IslandOffice y = new IslandOffice();
+        y.person(-1500, 0, -1, 0);
+        y.person(-1500, 1, -1, 1);
+        y.post(0, 1, 3);
+        y.store(0, 10);
+        made(y, "p:k=5");
+        // With fish in this week, and none later: 10 + 10 - 7, - 6, - 6, and 1 is left.
+        due("a law of the week to come, in mind", y.lack(0, 9), 3);
+        made(y, "p:a>1");
+        due("the one behind it, in mind", y.lack(0, 30), -2);
+    }
+
+    /** Numbers that were used, and are used anew behind a restored image. */
+    private static void sameNumbersAnew() {
+        IslandOffice x = new IslandOffice();
+        x.person(-1500, 0, -1, 1);
+        x.image();
+        x.person(-1500, 0, -1, 1);
+        x.post(0, 1, 0);
+        made(x, "e:a>90");
+        x.repeal(0);
+        due("one of the two", x.filled(), 1);
+        x.weeks(1);
+        due("hungry", x.about(1, 10), 1);
+        due("discontent", x.about(1, 6), 3);
+        x.found(0, 0);
+        x.death(1);
+        x.restore();
+        due("the number anew", x.person(-1500, 0, -1, 1), 1);
+        due("here", x.about(1, 5), 0);
+        due("not hungry", x.about(1, 10), 0);
+        due("content", x.about(1, 6), 0);
+        due("no post", x.about(1, 7), -2);
+        due("the law anew", made(x, "e:a>1"), 0);
+        due("not void", x.law(0, 4), 0);
+        due("not repealed", x.law(0, 5), -2);
+        due("the post anew, with two hands", x.post(0, 2, 0), 0);
+        due("filled by both", x.hands(0, false), 3);
+        x.restore();
+        due("anew, with one", x.post(0, 1, 0), 0);
+        due("filled by one", x.hands(0, false), 1);
+        x.open(0, false);
+        x.restore();
+        due("anew, with three", x.post(0, 3, 0), 0);
+        due("open", x.open(0, true), 0);
+        due("not filled", x.hands(0, false), 0);
     }
 
     private static void counts() {
