@@ -40,6 +40,9 @@ public final class IslandOffice {
     private static final int ROW_MAX = 120;
     private static final int ROW_SORTS = 3;
     private static final int RECORD_SIZE = 5;
+    private static final int LEAST_BYTE = -128;
+    private static final int LEAST_SHORT = -32768;
+    private static final int LEAST_INT = -2147483648;
 
     private static final int HERE = 0;
     private static final int AWAY = 1;
@@ -1746,7 +1749,7 @@ public final class IslandOffice {
         }
 
         private boolean isMissing(int week) {
-            int least = sort == 0 ? -128 : sort == 1 ? -32768 : Integer.MIN_VALUE;
+            int least = sort == 0 ? LEAST_BYTE : sort == 1 ? LEAST_SHORT : LEAST_INT;
             return cell[week] == least;
         }
 
