@@ -405,6 +405,9 @@ public final class PeopleEdgeTest {
         }
         due("house", x.about(9, 2), 7);
         due("of a newborn", x.birth(9), -3);
+        x.skill(5, 7, true);
+        due("of a HAND", x.birth(5), 11);
+        due("without her SKILLS", x.about(11, 4), 0);
         x.weeks(51);
         due("51 weeks later", x.about(9, 1), 0);
         x.weeks(1);

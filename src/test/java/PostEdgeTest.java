@@ -467,5 +467,14 @@ public final class PostEdgeTest {
         x.post(0, 3, 0);
         x.post(0, 2, 0);
         due("post 1", 10 * x.hands(0, false) + x.hands(1, false), 3);
+        x.restore();
+        for (int hands = 1; hands <= 3; hands++) {
+            for (int i = 0; i < 8; i++) {
+                x.post(0, hands, 0);
+            }
+            int[] want = {2, 1, 0};
+            due("eight of " + hands, x.filled(), want[hands - 1]);
+            x.restore();
+        }
     }
 }

@@ -13,6 +13,7 @@ public final class WeekEdgeTest {
         enoughFood();
         rationed();
         shares();
+        sharesOfThoseHere();
         oneMore();
         eatersByLaw();
         sharesByAllNumbers();
@@ -318,6 +319,46 @@ public final class WeekEdgeTest {
         // 13 are needed: 2 each, 1 more for the guest, 1 is left.
         due("once: one is left", y.record(0, 2), 1);
         due("though the guest is HUNGRY", y.about(4, 10), 1);
+    }
+
+    private static void sharesOfThoseHere() {
+        Checks.says("each other one here (how much is left divided by how many these are): not those away or gone");
+        for (int food = 2; food <= 7; food++) {
+            IslandOffice x = Checks.someAway();
+            x.person(-100, 0, -1, 0);
+            x.person(-1500, 0, -1, 0);
+            x.guest(-1500, 0, 0, 5);
+            x.guest(-1500, 0, 0, 400);
+            x.death(5);
+            x.store(0, food);
+            x.weeks(1);
+            // An OLD one (2), a CHILD (2) and a GUEST (4) are here.
+            due("OLD with " + food, x.about(3, 10), food >= 4 ? 0 : 1);
+            due("CHILD with " + food, x.about(4, 10), food >= 5 ? 0 : 1);
+            due("GUEST with " + food, x.about(7, 10), 1);
+            due("none away or gone is HUNGRY", x.about(0, 10) + x.about(1, 10) + x.about(5, 10) + x.about(6, 10), 0);
+            due("left of " + food, x.record(5, 2), 0);
+        }
+        IslandOffice y = Checks.someAway();
+        for (int p = 0; p < 4; p++) {
+            y.person(-100, 0, -1, 0);
+        }
+        y.guest(-1500, 0, 0, 400);
+        y.death(3);
+        y.store(0, 11);
+        y.weeks(1);
+        // 2 each for the five, then 1 more for the guest. Divided by nine it would be 1 each, then 1 more: 10.
+        due("11 for five that are here", y.record(5, 2), 0);
+        Checks.says("then by numbers 1 more each .. NEED isn't met");
+        IslandOffice z = Checks.someAway();
+        z.death(3);
+        z.guest(-1500, 0, 0, 400);
+        z.store(0, 2);
+        z.weeks(1);
+        due("2 for the guest alone", z.record(5, 2), 0);
+        z.store(0, 3);
+        z.weeks(1);
+        due("3 for the guest alone", z.record(6, 2), 0);
     }
 
     private static void oneMore() {
