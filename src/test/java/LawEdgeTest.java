@@ -22,6 +22,7 @@ public final class LawEdgeTest {
         tests();
         joints();
         longTexts();
+        textsInTurn();
         lawsMax();
         firstWeeks();
         inForce();
@@ -429,6 +430,26 @@ public final class LawEdgeTest {
         is(Checks.times("1=2|", 28) + "10=10", true);
         is(Checks.times("1=1&", 28) + "10=10", true);
         is(Checks.times("1=1&", 28) + "1=10", false);
+    }
+
+    private static void textsInTurn() {
+        Checks.says("a text is read anew, whatever was read before it");
+        String[] before = {"v:a<1&", "v:!", "v:!!(", "v:a<1|b", "v:((a<1", "v:1+", "v:a-1<", "e:99x", "", "v:0<00", "l:a=1"};
+        String[] laws = {"l:1=1", "l:1=2", "l:!1=2", "l:(1=1)", "l:3-1-1=1", "l:1=2|1=1", "l:1=1&1=2"};
+        int[] want = {1, 0, 1, 1, 1, 1, 0};
+        for (String other : before) {
+            IslandOffice x = Checks.settled(1);
+            x.person(-1500, 0, -1, 0);
+            for (int k = 0; k < laws.length; k++) {
+                Checks.text(x, 0, other);
+                x.fault(0);
+                due("made", Checks.law(x, laws[k]), k);
+                Checks.text(x, 0, other);
+                x.fault(0);
+                x.weeks(1);
+                due(laws[k] + " between readings of " + other, x.may(0, 3), want[k]);
+            }
+        }
     }
 
     private static void lawsMax() {

@@ -204,6 +204,10 @@ public final class PeopleEdgeTest {
         due("end 401", x.guest(-1500, 0, 0, 401), -1);
         due("end 0", x.guest(-1500, 0, 0, 0), 0);
         due("end 400", x.guest(-1500, 0, 0, 400), 1);
+        due("KIND of a guest of END 0", x.about(0, 0), 5);
+        due("NEED", x.about(0, 8), 4);
+        due("no VOTERS", x.count(12), 0);
+        due("no mother", x.birth(0), -3);
         x.weeks(3);
         due("end 2", x.guest(-1500, 0, 0, 2), -1);
         due("end 3", x.guest(-1500, 0, 0, 3), 2);

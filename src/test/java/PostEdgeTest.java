@@ -15,6 +15,7 @@ public final class PostEdgeTest {
         leastHands();
         nineAndTen();
         whoCountsAmongTen();
+        whoDoesNotCount();
         postByPost();
         highHands();
         lawOfPosts();
@@ -173,6 +174,32 @@ public final class PostEdgeTest {
         x.person(-1500, 0, -1, 1);
         due("a fourth hand", x.filled(), 2);
         due("post 1", x.hands(1, false), 8);
+        int[] six = {3, 3, 2, 2, 2};
+        int[] three = {0, 0, 0b11, 0b1100, 0b110000};
+        int[] five = {3, 2, 2, 1, 1, 1, 1, 1};
+        int[] lastFive = {0, 0, 0, 1, 2, 4, 8, 16};
+        int[] nine = {3, 3, 3, 2, 2, 2, 2};
+        int[] four = {0b111, 0, 0, 0b11000, 0b1100000, 0b110000000, 0};
+        int[] eight = {3, 3, 3, 3, 2, 2, 2, 2};
+        int[] lastFour = {0, 0, 0, 0, 0b11, 0b1100, 0b110000, 0b11000000};
+        crews(6, six, three);
+        crews(5, five, lastFive);
+        crews(9, nine, four);
+        crews(8, eight, lastFour);
+    }
+
+    /** So many people of one skill, and posts of so many hands: who takes each. */
+    private static void crews(int people, int[] hands, int[] want) {
+        IslandOffice x = new IslandOffice();
+        for (int p = 0; p < people; p++) {
+            x.person(-1500, 0, -1, 1);
+        }
+        for (int n : hands) {
+            x.post(0, n, 0);
+        }
+        for (int i = 0; i < hands.length; i++) {
+            due(people + " people, post " + i, x.hands(i, false), want[i]);
+        }
     }
 
     private static void setOfPosts() {
@@ -280,6 +307,25 @@ public final class PostEdgeTest {
         x.store(0, 1000);
         x.weeks(1);
         due("by p's LAW nine", x.hands(0, false), 2);
+    }
+
+    private static void whoDoesNotCount() {
+        Checks.says("9 at most CAN take any that is OPEN: who has a SKILL that none asks doesn't count");
+        for (int skill = 0; skill < 6; skill++) {
+            for (int odd = 0; odd < 10; odd++) {
+                IslandOffice x = new IslandOffice();
+                x.post(6, 1, 0);
+                x.post(7, 1, 0);
+                int both = odd == 0 ? 1 : 0;
+                for (int p = 0; p < 10; p++) {
+                    x.person(-1500, 0, -1, p == odd ? 1 << skill : p == both ? 192 : 64);
+                }
+                due("nine can, " + odd + " has skill " + skill, x.filled(), 2);
+                due("post 1", x.hands(1, false), 1 << both);
+                x.skill(odd, 6, true);
+                due("ten can", x.filled(), odd == 0 ? 2 : 1);
+            }
+        }
     }
 
     private static void postByPost() {

@@ -271,6 +271,15 @@ public final class StoreEdgeTest {
         due("wild", x.pays(Checks.HIGH), -1);
         due("wild", x.pays(Checks.LOW), -1);
         due("as it was", x.pays(before), 0);
+        for (int from = -1500; from < 1500; from += 300) {
+            IslandOffice y = new IslandOffice();
+            for (int n = from; n < from + 300; n++) {
+                if (n < 0 || n >= 27) {
+                    due("pays(" + n + ")", y.pays(n), -1);
+                }
+            }
+            due("as at first", y.pays(21), 0);
+        }
     }
 
     private static void earns() {

@@ -448,15 +448,14 @@ public final class TryEdgeTest {
         due("none came", x.due(0), 500);
     }
 
-    /** THE PLAN by trying each pair with image, order, lack and restore. */
-    private static int planByHand(IslandOffice x) {
+    /** THE PLAN by telling each pair of ORDERS to an object of its own. */
+    private static int planByHand(int run) {
         int best = -1;
         int bestSum = 99;
         int bestFood = 99;
-        x.image();
         for (int food = 0; food <= 10; food++) {
             for (int fuel = 0; fuel <= 10; fuel++) {
-                x.restore();
+                IslandOffice x = planned(run);
                 if (food > 0) {
                     x.order(0, 10 * food);
                 }
@@ -475,7 +474,6 @@ public final class TryEdgeTest {
                 }
             }
         }
-        x.restore();
         return 100 * bestFood + bestSum - bestFood;
     }
 
@@ -503,8 +501,7 @@ public final class TryEdgeTest {
     private static void plansOneByOne() {
         Checks.says("of these those of the least sum, of these with the least for FOOD (tried one by one)");
         for (int run = 0; run < 60; run++) {
-            // The calls of the search by hand are many; the answer of plan comes from an object of its own.
-            due("run " + run, planned(run).plan(), planByHand(planned(run)));
+            due("run " + run, planned(run).plan(), planByHand(run));
         }
     }
 
