@@ -19,6 +19,11 @@ public final class LanguageTest {
         "\\bSystem\\.(?!arraycopy)", "\\bMath\\.\\w+Exact\\b", "\\bRandom\\b", "\\bThread\\b", "\\bprotected\\b",
         "\\bstrictfp\\b", "\\bnative\\b", "\\bvolatile\\b", "\\btransient\\b", "\\bstatic\\s*\\{", "\\bNaN\\b",
         "\\bwhile\\s*\\(true\\)", "\\bfor\\s*\\(;;\\)", "\\bhashCode\\b", "\\btoString\\b", "\" *\\+|\\+ *\""};
+    /** What of the library may be named at all; of the program's own classes no static member is a library's. */
+    private static final Set<String> LIBRARY = new HashSet<>(Arrays.asList("System.arraycopy", "Arrays.copyOf",
+        "Arrays.copyOfRange", "Arrays.fill", "Math.max", "Math.min", "Math.abs", "Math.floorDiv", "Math.floorMod",
+        "Integer.compare", "Integer.max", "Integer.min", "Integer.bitCount", "Long.compare", "Long.max", "Long.min",
+        "Long.bitCount", "List.of"));
     private static final Set<String> FACE = new HashSet<>(Arrays.asList("person", "guest", "birth", "death", "back",
         "skill", "move", "house", "about", "home", "fault", "vote", "repeal", "found", "force", "may", "law", "post",
         "open", "hands", "filled", "store", "rank", "order", "due", "set", "pays", "earn", "weather", "sky", "weeks",
@@ -49,6 +54,13 @@ public final class LanguageTest {
             Matcher m = Pattern.compile(out).matcher(code);
             if (m.find()) {
                 fault("ruled out: " + m.group());
+            }
+        }
+        Matcher named = Pattern.compile("\\b(System|Arrays|Math|Integer|Long|Short|Byte|Character|Boolean|String|Double|"
+            + "Float|List|Objects|Collections)\\.\\w+").matcher(code.replaceAll("import [^;]*;", ""));
+        while (named.find()) {
+            if (!LIBRARY.contains(named.group())) {
+                fault("not in the library that stands there: " + named.group());
             }
         }
         for (char c : code.toCharArray()) {

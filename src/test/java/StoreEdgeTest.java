@@ -299,6 +299,11 @@ public final class StoreEdgeTest {
         due("1000000", x.earn(1), 1000000);
         due("above by 1", x.earn(1), -2);
         due("THE PURSE", x.count(8), 1000000);
+        Checks.says("An object is used for at most 512 calls");
+        IslandOffice y = new IslandOffice();
+        for (int call = 1; call <= 512; call++) {
+            due("call " + call, y.earn(3), 3 * call);
+        }
     }
 
     private static void sky(IslandOffice x, boolean rain, int... cells) {
