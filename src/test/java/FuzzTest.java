@@ -12,6 +12,12 @@ public final class FuzzTest {
         6, 3, 8, 2, 3, 3, 6, 4, 6, 3, 5, 3, 12,
         5, 8, 4, 5, 2, 4, 8, 6, 18, 6, 2, 3, 1,
         5, 5, 12, 6, 5, 8, 4, 4, 4, 5};
+    /** In a town that lacks much: more weeks, tries, votes and what is taken back, less of what is only looked at. */
+    private static final int[] OFTEN_IN_WANT = {4, 2, 3, 1, 10, 4, 3, 2, 6,
+        3, 1, 14, 2, 8, 3, 5, 3, 2, 6, 5, 3, 8,
+        2, 8, 3, 3, 3, 4, 3, 2, 22, 4, 12, 8, 5,
+        5, 5, 10, 3, 2, 2, 2, 2, 2, 4};
+    private static final int IN_WANT = 4;
     private static final int LACK_OF_NUMBERS = 5;
 
     private final Random random;
@@ -27,7 +33,7 @@ public final class FuzzTest {
         random = new Random(seed);
         // Some runs ask much that is refused, most ask little of it.
         wild = seed % 5 == 0 ? 15 : seed % 5 == 1 ? 0 : 2;
-        style = (int) (seed % 7 % 4);
+        style = (int) Math.min(IN_WANT, seed % 7);
     }
 
     public static void main(String[] args) {
@@ -50,11 +56,14 @@ public final class FuzzTest {
     }
 
     private boolean run() {
+        int[] often = style == IN_WANT ? OFTEN_IN_WANT : OFTEN;
         int sum = 0;
-        for (int often : OFTEN) {
-            sum += often;
+        for (int many : often) {
+            sum += many;
         }
-        if (style > 0) {
+        if (style == IN_WANT) {
+            settleInWant();
+        } else if (style > 0) {
             settle();
         }
         if (random.nextInt(8) == 0) {
@@ -66,8 +75,8 @@ public final class FuzzTest {
         while (calls < CALLS && right) {
             int pick = random.nextInt(sum);
             int m = 0;
-            while (pick >= OFTEN[m]) {
-                pick -= OFTEN[m];
+            while (pick >= often[m]) {
+                pick -= often[m];
                 m++;
             }
             if (m == 10 || m == 11) {
@@ -109,6 +118,45 @@ public final class FuzzTest {
             call(21, new int[] {0, 1000, 0, 0, 0});
             call(21, new int[] {1, 500, 0, 0, 0});
         }
+    }
+
+    /** A town with food and fuel for some weeks, orders on the way, mothers and old ones, and few who bear much. */
+    private void settleInWant() {
+        call(25, new int[] {0, between(10, 150), 0, 0, 0});
+        call(25, new int[] {2, upTo(20), 0, 0, 0});
+        call(25, new int[] {3, between(3, 12), 0, 0, 0});
+        int people = between(6, 18);
+        for (int i = 0; i < people; i++) {
+            int pick = random.nextInt(10);
+            if (pick == 0) {
+                call(1, new int[] {-between(900, 3000), upTo(2), someSkills(), between(4, 60), 0});
+            } else if (pick <= 2 && i > 0) {
+                call(0, new int[] {-between(0, 820), upTo(2), random.nextInt(i), 0, 0});
+            } else {
+                int birth = pick == 3 ? -between(3300, 3500) : -between(900, 3200);
+                call(0, new int[] {birth, upTo(2), -1, 1 << upTo(2) | (random.nextBoolean() ? 1 : 0), 0});
+            }
+        }
+        for (int i = between(2, 5); i > 0; i--) {
+            call(17, new int[] {upTo(2), between(1, 2), upTo(3), 0, 0});
+        }
+        int[] sky = new int[120];
+        for (int i = 0; i < sky.length; i++) {
+            sky[i] = random.nextInt(9) == 0 ? -128 : upTo(80);
+        }
+        putRow(1, 0, sky);
+        call(28, new int[] {1, 0, 0, 0, 0});
+        for (int i = 0; i < sky.length; i++) {
+            sky[i] = random.nextInt(9) == 0 ? -128 : upTo(7);
+        }
+        putRow(1, 0, sky);
+        call(28, new int[] {1, 1, 0, 0, 0});
+        call(21, new int[] {0, Math.min(1000, 3 * people * between(3, 16)), 0, 0, 0});
+        call(21, new int[] {1, 3 * between(3, 16), 0, 0, 0});
+        for (int i = upTo(4); i > 0; i--) {
+            call(23, new int[] {upTo(1), between(1, 80), 0, 0, 0});
+        }
+        call(27, new int[] {between(1, 200), 0, 0, 0, 0});
     }
 
     /** A whole look round: it changes nothing, so it isn't counted among the calls. */
@@ -249,7 +297,11 @@ public final class FuzzTest {
             case 27: a = new int[] {random.nextInt(3) == 0 ? between(1, 10000) : between(1, 30)}; break;
             case 28: a = new int[] {random.nextInt(12) == 0 ? upTo(7) : 1, upTo(1)}; break;
             case 29: a = new int[] {random.nextInt(3) == 0 ? upTo(400) : upTo(125), upTo(1)}; break;
-            case 30: a = new int[] {random.nextInt(12) == 0 ? upTo(52) : between(1, 5)}; break;
+            case 30: {
+                int most = style == IN_WANT ? 2 : 5;
+                a = new int[] {random.nextInt(style == IN_WANT ? 60 : 12) == 0 ? upTo(52) : between(1, most)};
+                break;
+            }
             case 31: a = new int[] {random.nextInt(6) == 0 ? upTo(401) : upTo(week), upTo(4)}; break;
             case 32: a = new int[] {somePost(), between(1, 30)}; break;
             case 33: a = new int[] {upTo(3), between(1, 30)}; break;
@@ -303,6 +355,9 @@ public final class FuzzTest {
             "l:w<30", "e:s>0", "v:h>1", "p:s=1|w<26", "l:h>2", "v:!(c>3)"};
         if (random.nextInt(3) == 0) {
             return plain[random.nextInt(plain.length)];
+        }
+        if (style == IN_WANT && random.nextBoolean()) {
+            return plain[upTo(2)];
         }
         StringBuilder text = new StringBuilder();
         text.append("vpel".charAt(upTo(3))).append(':');
